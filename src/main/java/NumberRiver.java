@@ -593,12 +593,9 @@ public final class NumberRiver {
         void open(Block b) {
             bytes = b.bytes;
             place = 0;
-            time = 0;
             step = 0;
-            value = 0;
             frameStart = 0;
             frameBits = 0;
-            pointBits = 0;
         }
 
         void next() {

@@ -50,12 +50,14 @@ public final class ModelTest {
         private final Model model = new Model();
         private final int scale;
         private final int clock;
+        private final int mending;
         private int now = 0;
 
         Walk(Random random) {
             this.random = random;
             this.scale = random.nextInt(5);
             this.clock = random.nextInt(4);
+            this.mending = 2 + random.nextInt(60);
         }
 
         void go() {
@@ -216,7 +218,7 @@ public final class ModelTest {
             String call = "tear(" + s + ", " + i + ", " + k + ", " + mask + ")";
             same(call, river.tear(s, i, k, mask), model.tear(s, i, k, mask));
             // Most are mended at once, that the run stays rich.
-            if (random.nextInt(3) != 0) {
+            if (random.nextInt(mending) != 0) {
                 if (random.nextBoolean()) {
                     ask();
                     put();
@@ -240,11 +242,19 @@ public final class ModelTest {
                 case 3: same("cost" + block + k + ")", river.cost(s, i, k), model.cost(s, i, k)); break;
                 case 4: what = random.nextInt(4) - 1;
                     same("point" + block + k + ", " + what + ")", river.point(s, i, k, what), model.point(s, i, k, what)); break;
-                case 5: k = random.nextInt(42) - 1; what = random.nextInt(4) - 1;
+                case 5: k = random.nextInt(lates(s) + 2) - 1; what = random.nextInt(4) - 1;
                     same("late(" + s + ", " + k + ", " + what + ")", river.late(s, k, what), model.late(s, k, what)); break;
-                default: k = random.nextInt(20) - 1;
+                default: k = random.nextInt(spans(s) + 2) - 1;
                     same("span(" + s + ", " + k + ", " + what + ")", river.span(s, k, what), model.span(s, k, what));
             }
+        }
+
+        private int lates(int s) {
+            return model.get(s) == null ? 0 : model.get(s).late.size();
+        }
+
+        private int spans(int s) {
+            return model.get(s) == null ? 0 : model.get(s).spans.size();
         }
 
         private void ask() {
