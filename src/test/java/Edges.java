@@ -70,6 +70,30 @@ abstract class Edges {
         }
     }
 
+    interface OfSeries {
+        long ask(NumberRiver x, int series);
+    }
+
+    /** The rich river has series 0 .. 3; a call about any other one is refused. */
+    static void noSuchSeries(OfSeries call, long want) {
+        for (int s : new int[] {-1, 4, LOWEST, HIGHEST}) {
+            changesNothing("series " + s, Scenes::rich, x -> call.ask(x, s), want);
+        }
+    }
+
+    interface OfWindow {
+        long ask(NumberRiver x, int a, int b);
+    }
+
+    /** a below 0, or b not above a: a question about such a window is refused. */
+    static void noSuchWindow(OfWindow question, long want) {
+        int[][] bad = {{-1, 500}, {LOWEST, 500}, {-1, -1}, {-2, -1}, {5, 5}, {5, 4}, {0, 0}, {0, -1},
+            {HIGHEST, HIGHEST}, {HIGHEST, LOWEST}, {LOWEST, HIGHEST}, {5, LOWEST}};
+        for (int[] w : bad) {
+            changesNothing("a " + w[0] + ", b " + w[1], Scenes::rich, x -> question.ask(x, w[0], w[1]), want);
+        }
+    }
+
     /** Two ways that must lead to the same river. */
     static void same(String what, Supplier<NumberRiver> one, Supplier<NumberRiver> other) {
         asked++;

@@ -60,9 +60,7 @@ public final class Promise03LabelTest extends Edges {
     private static void whichSeries() {
         sentence("NONE no such SERIES");
         due("the last series", Scenes.rich().label(3, 1, 1), 0);
-        for (int s : new int[] {-1, 4, LOWEST, HIGHEST}) {
-            changesNothing("series " + s, Scenes::rich, x -> x.label(s, 0, 1), NONE);
-        }
+        noSuchSeries((x, s) -> x.label(s, 0, 1), NONE);
         due("series 7 of eight", Scenes.with(0, 0, 0, 0, 0, 0, 0, 0).label(7, 0, 0), 0);
         changesNothing("series 8 of eight", () -> Scenes.with(0, 0, 0, 0, 0, 0, 0, 0), x -> x.label(8, 0, 0), NONE);
     }

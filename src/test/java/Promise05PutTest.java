@@ -268,9 +268,7 @@ public final class Promise05PutTest extends Edges {
     private static void whichSeries() {
         sentence("NONE no such SERIES");
         due("the last series", Scenes.rich().put(3, 391, 0), 1);
-        for (int s : new int[] {-1, 4, LOWEST, HIGHEST}) {
-            changesNothing("series " + s, Scenes::rich, x -> x.put(s, 500, 1), NONE);
-        }
+        noSuchSeries((x, s) -> x.put(s, 500, 1), NONE);
     }
 
     /** A span 0 .. 9, main times 10 .. 309 and 40 late ones: full of both. */

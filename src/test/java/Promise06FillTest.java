@@ -127,9 +127,7 @@ public final class Promise06FillTest extends Edges {
     private static void whichSeries() {
         sentence("NONE no such SERIES");
         due("the last series", Scenes.rich().fill(3, 391, 1, 0, 0, 2), 2);
-        for (int s : new int[] {-1, 4, LOWEST, HIGHEST}) {
-            changesNothing("series " + s, Scenes::rich, x -> x.fill(s, 500, 1, 0, 0, 1), NONE);
-        }
+        noSuchSeries((x, s) -> x.fill(s, 500, 1, 0, 0, 1), NONE);
     }
 
     private static void noneBeforeBad() {

@@ -60,17 +60,18 @@ public final class Promise07MergeTest extends Edges {
             return x;
         });
         same("blocks torn and mended, or never torn", () -> {
-            NumberRiver x = Scenes.with(WHOLE);
-            for (int k = 0; k < 20; k++) {
-                x.put(0, 10 * k, k);
-                x.tear(0, k, 0, 1);
-            }
-            for (int k = 0; k < 20; k++) {
-                x.tear(0, k, 0, 1);
-            }
+            NumberRiver x = Scenes.manyBlocks();
             x.merge(0);
             return x;
         }, () -> Scenes.counted(WHOLE, 10, 20));
+        changesNothing("the frames begin anew, too", () -> {
+            NumberRiver x = Scenes.with(WHOLE);
+            x.put(0, 0, 0);
+            x.put(0, 1, 1);
+            x.put(0, 2, -1);
+            x.put(0, 3, 0);
+            return x;
+        }, x -> x.merge(0), 4);
     }
 
     private static void aheadOfAll() {
@@ -186,8 +187,6 @@ public final class Promise07MergeTest extends Edges {
     private static void whichSeries() {
         sentence("NONE no such SERIES");
         due("the last series, torn", Scenes.rich().merge(3), STATE);
-        for (int s : new int[] {-1, 4, LOWEST, HIGHEST}) {
-            changesNothing("series " + s, Scenes::rich, x -> x.merge(s), NONE);
-        }
+        noSuchSeries((x, s) -> x.merge(s), NONE);
     }
 }

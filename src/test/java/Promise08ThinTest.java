@@ -16,6 +16,7 @@ public final class Promise08ThinTest extends Edges {
         nothingBelowT();
         sixteenInEachButTheLast();
         blocksAnew();
+        blocksAnewThoughNothingGoes();
         sixtySpans();
         sixtySpansInSteps();
         whichSeries();
@@ -234,6 +235,16 @@ public final class Promise08ThinTest extends Edges {
         }
     }
 
+    private static void blocksAnewThoughNothingGoes() {
+        sentence("those from T on are put in BLOCKS anew, 16 in each but the last");
+        due("20 blocks", Scenes.manyBlocks().about(0, 1), 20);
+        same("nothing below t", () -> {
+            NumberRiver x = Scenes.manyBlocks();
+            due("no span", x.thin(0, 0, 1), 0);
+            return x;
+        }, () -> Scenes.counted(WHOLE, 10, 20));
+    }
+
     private static void sixtySpans() {
         sentence("FULL: above 60 SPANS");
         NumberRiver x = Scenes.counted(WHOLE, 1, 100);
@@ -261,9 +272,7 @@ public final class Promise08ThinTest extends Edges {
     private static void whichSeries() {
         sentence("NONE no such SERIES");
         due("series 1", Scenes.rich().thin(1, 2, 1), 2);
-        for (int s : new int[] {-1, 4, LOWEST, HIGHEST}) {
-            changesNothing("series " + s, Scenes::rich, x -> x.thin(s, 0, 1), NONE);
-        }
+        noSuchSeries((x, s) -> x.thin(s, 0, 1), NONE);
     }
 
     private static void orderOfRefusals() {

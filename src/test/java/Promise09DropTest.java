@@ -10,6 +10,8 @@ public final class Promise09DropTest extends Edges {
         allGoes();
         anyTime();
         roomAgain();
+        nothingOfATornBlockIsLeft();
+        spansBehindTheDroppedOnes();
         whichSeries();
         end();
     }
@@ -139,11 +141,37 @@ public final class Promise09DropTest extends Edges {
         due("and no more", z.thin(0, 62, 1), FULL);
     }
 
+    private static void nothingOfATornBlockIsLeft() {
+        sentence("BLOCKS go (TORN or not)");
+        NumberRiver x = Scenes.counted(WHOLE, 10, 16);
+        x.tear(0, 0, 11, 255);
+        due("the torn one", x.drop(0, 151), 1);
+        due("a first point again", x.put(0, 5, 1), 1);
+        due("its block is not torn", x.block(0, 0, 5), 0);
+        due("its last byte", x.at(0, 0, 11), 1);
+        due("its check", x.block(0, 0, 4), 6);
+        due("its value", x.point(0, 0, 0, 1), 1);
+        x.tear(0, 0, 11, 255);
+        due("it can be torn", x.block(0, 0, 5), 1);
+        x.tear(0, 0, 11, 255);
+        due("and mended", x.block(0, 0, 5), 0);
+    }
+
+    private static void spansBehindTheDroppedOnes() {
+        sentence("SPANS with END not above t go");
+        NumberRiver x = Scenes.fullOfSpans();
+        due("ten go", x.drop(0, 10), 10);
+        due("ten come", x.thin(0, 70, 1), 60);
+        for (int i = 0; i < 60; i++) {
+            due("begin of " + i, x.span(0, i, 0), 10 + i);
+            due("how many in " + i, x.span(0, i, 2), 1);
+            due("sum of " + i, x.span(0, i, 3), 10 + i);
+        }
+    }
+
     private static void whichSeries() {
         sentence("NONE no such SERIES");
         due("the last series", Scenes.rich().drop(3, 151), 1);
-        for (int s : new int[] {-1, 4, LOWEST, HIGHEST}) {
-            changesNothing("series " + s, Scenes::rich, x -> x.drop(s, 500), NONE);
-        }
+        noSuchSeries((x, s) -> x.drop(s, 500), NONE);
     }
 }

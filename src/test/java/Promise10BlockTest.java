@@ -46,9 +46,7 @@ public final class Promise10BlockTest extends Edges {
     private static void whichSeries() {
         sentence("NONE no such SERIES");
         due("the last series", Scenes.rich().block(3, 0, 0), 16);
-        for (int s : new int[] {-1, 4, LOWEST, HIGHEST}) {
-            changesNothing("series " + s, Scenes::rich, x -> x.block(s, 0, 0), NONE);
-        }
+        noSuchSeries((x, s) -> x.block(s, 0, 0), NONE);
     }
 
     private static void firstAndLastTimes() {

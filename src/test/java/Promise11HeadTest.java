@@ -37,9 +37,7 @@ public final class Promise11HeadTest extends Edges {
     private static void whichSeries() {
         sentence("NO: no such SERIES");
         due("the last series", Scenes.rich().head(3, 0, 1), 60);
-        for (int s : new int[] {-1, 4, LOWEST, HIGHEST}) {
-            changesNothing("series " + s, Scenes::rich, x -> x.head(s, 0, 0), NO);
-        }
+        noSuchSeries((x, s) -> x.head(s, 0, 0), NO);
     }
 
     private static void onePoint() {

@@ -48,9 +48,7 @@ public final class Promise12AtTest extends Edges {
     private static void whichSeries() {
         sentence("NONE no such SERIES");
         due("the last series", Scenes.rich().at(3, 2, 3), 320 - 256);
-        for (int s : new int[] {-1, 4, LOWEST, HIGHEST}) {
-            changesNothing("series " + s, Scenes::rich, x -> x.at(s, 0, 0), NONE);
-        }
+        noSuchSeries((x, s) -> x.at(s, 0, 0), NONE);
     }
 
     private static void zeroTo255() {

@@ -60,9 +60,7 @@ public final class Promise13TearTest extends Edges {
     private static void whichSeries() {
         sentence("NONE no such SERIES");
         due("the last series", Scenes.rich().tear(3, 0, 0, 1), 1);
-        for (int s : new int[] {-1, 4, LOWEST, HIGHEST}) {
-            changesNothing("series " + s, Scenes::rich, x -> x.tear(s, 0, 0, 1), NONE);
-        }
+        noSuchSeries((x, s) -> x.tear(s, 0, 0, 1), NONE);
     }
 
     private static void noneBeforeBad() {

@@ -41,9 +41,7 @@ public final class Promise14CostTest extends Edges {
     private static void whichSeries() {
         sentence("NONE no such SERIES");
         due("the last series", Scenes.rich().cost(3, 2, 0), 96);
-        for (int s : new int[] {-1, 4, LOWEST, HIGHEST}) {
-            changesNothing("series " + s, Scenes::rich, x -> x.cost(s, 0, 0), NONE);
-        }
+        noSuchSeries((x, s) -> x.cost(s, 0, 0), NONE);
     }
 
     private static void tornOnes() {

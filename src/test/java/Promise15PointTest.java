@@ -51,9 +51,7 @@ public final class Promise15PointTest extends Edges {
     private static void whichSeries() {
         sentence("NO: no such SERIES");
         due("the last series", Scenes.rich().point(3, 2, 7, 0), 390);
-        for (int s : new int[] {-1, 4, LOWEST, HIGHEST}) {
-            changesNothing("series " + s, Scenes::rich, x -> x.point(s, 0, 0, 0), NO);
-        }
+        noSuchSeries((x, s) -> x.point(s, 0, 0, 0), NO);
     }
 
     private static void tornOnes() {

@@ -96,8 +96,6 @@ public final class Promise16LateTest extends Edges {
         NumberRiver x = Scenes.rich();
         x.put(3, 0, 5);
         due("the last series", x.late(3, 0, 1), 5);
-        for (int s : new int[] {-1, 4, LOWEST, HIGHEST}) {
-            changesNothing("series " + s, Scenes::rich, y -> y.late(s, 0, 0), NO);
-        }
+        noSuchSeries((y, s) -> y.late(s, 0, 0), NO);
     }
 }

@@ -8,6 +8,7 @@ public final class Promise17SpanTest extends Edges {
         onePoint();
         firstAndLast();
         extremes();
+        madeAnew();
         whichSeries();
         end();
     }
@@ -93,14 +94,25 @@ public final class Promise17SpanTest extends Edges {
         due("the last end", x.span(0, 2, 1), LAST_TIME);
     }
 
+    private static void madeAnew() {
+        sentence("of the POINTS that were in it");
+        NumberRiver x = Scenes.rich();
+        due("both dropped", x.drop(0, 100), 2);
+        x.merge(0);
+        due("another one", x.thin(0, 150, 50), 1);
+        // Late 8 at 100, then 35, 38, 41 and 44.
+        long[] want = {100, 150, 5, 8 + 35 + 38 + 41 + 44, 8, 44, 8, 44};
+        for (int what = 0; what <= 7; what++) {
+            due("nothing of the ones before, what " + what, x.span(0, 0, what), want[what]);
+        }
+    }
+
     private static void whichSeries() {
         sentence("NO: no such SERIES");
         NumberRiver x = Scenes.rich();
         x.tear(3, 1, 0, 128);
         due("thinned", x.thin(3, 100, 100), 1);
         due("the last series", x.span(3, 0, 2), 10);
-        for (int s : new int[] {-1, 4, LOWEST, HIGHEST}) {
-            changesNothing("series " + s, Scenes::rich, y -> y.span(s, 0, 0), NO);
-        }
+        noSuchSeries((y, s) -> y.span(s, 0, 0), NO);
     }
 }

@@ -35,11 +35,7 @@ public final class Promise18CountTest extends Edges {
         due("b is not in it", x.count(0, 0, 9), 9);
         due("b - 1 is in it", x.count(0, 0, 10), 10);
         due("a is in it", x.count(0, 9, 10), 1);
-        int[][] bad = {{-1, 5}, {LOWEST, 5}, {-1, -1}, {-2, -1}, {5, 5}, {5, 4}, {0, 0}, {0, -1},
-            {HIGHEST, HIGHEST}, {HIGHEST, LOWEST}, {LOWEST, HIGHEST}, {5, LOWEST}};
-        for (int[] w : bad) {
-            changesNothing("a " + w[0] + ", b " + w[1], Scenes::rich, y -> y.count(0, w[0], w[1]), BAD);
-        }
+        noSuchWindow((y, a, b) -> y.count(0, a, b), BAD);
     }
 
     private static void farWindows() {
@@ -198,9 +194,7 @@ public final class Promise18CountTest extends Edges {
     private static void whichSeries() {
         sentence("NONE no such SERIES");
         due("the last series", Scenes.rich().count(3, 0, 1), 1);
-        for (int s : new int[] {-1, 4, LOWEST, HIGHEST}) {
-            changesNothing("series " + s, Scenes::rich, x -> x.count(s, 0, 1), NONE);
-        }
+        noSuchSeries((x, s) -> x.count(s, 0, 1), NONE);
     }
 
     private static void noneBeforeBad() {

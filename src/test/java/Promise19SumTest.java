@@ -98,12 +98,7 @@ public final class Promise19SumTest extends Edges {
     private static void refusals() {
         sentence("NO: no such SERIES, a, b as of count()");
         due("a 0, b 1", Scenes.rich().sum(3, 0, 1), 0);
-        int[][] bad = {{-1, 5}, {5, 5}, {5, 4}, {0, 0}, {LOWEST, HIGHEST}, {HIGHEST, HIGHEST}};
-        for (int[] w : bad) {
-            changesNothing("a " + w[0] + ", b " + w[1], Scenes::rich, x -> x.sum(0, w[0], w[1]), NO);
-        }
-        for (int s : new int[] {-1, 4, LOWEST, HIGHEST}) {
-            changesNothing("series " + s, Scenes::rich, x -> x.sum(s, 0, 5), NO);
-        }
+        noSuchWindow((x, a, b) -> x.sum(0, a, b), NO);
+        noSuchSeries((x, s) -> x.sum(s, 0, 5), NO);
     }
 }

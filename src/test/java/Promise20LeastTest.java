@@ -101,13 +101,8 @@ public final class Promise20LeastTest extends Edges {
     private static void refusals() {
         sentence("NO: no such SERIES, a, b as of count()");
         due("a 0, b 1", Scenes.rich().least(3, 0, 1, true), 0);
-        int[][] bad = {{-1, 500}, {5, 5}, {5, 4}, {0, 0}, {LOWEST, HIGHEST}, {HIGHEST, HIGHEST}};
-        for (int[] w : bad) {
-            changesNothing("least, a " + w[0] + ", b " + w[1], Scenes::rich, x -> x.least(0, w[0], w[1], false), NO);
-            changesNothing("most, a " + w[0] + ", b " + w[1], Scenes::rich, x -> x.least(0, w[0], w[1], true), NO);
-        }
-        for (int s : new int[] {-1, 4, LOWEST, HIGHEST}) {
-            changesNothing("series " + s, Scenes::rich, x -> x.least(s, 0, 500, true), NO);
-        }
+        noSuchWindow((x, a, b) -> x.least(0, a, b, false), NO);
+        noSuchWindow((x, a, b) -> x.least(0, a, b, true), NO);
+        noSuchSeries((x, s) -> x.least(s, 0, 500, true), NO);
     }
 }

@@ -131,12 +131,7 @@ public final class Promise21RiseTest extends Edges {
 
     private static void refusals() {
         sentence("NO: no such SERIES, a, b as of count()");
-        int[][] bad = {{-1, 500}, {5, 5}, {5, 4}, {0, 0}, {LOWEST, HIGHEST}, {HIGHEST, HIGHEST}};
-        for (int[] w : bad) {
-            changesNothing("a " + w[0] + ", b " + w[1], Scenes::rich, x -> x.rise(3, w[0], w[1]), NO);
-        }
-        for (int s : new int[] {-1, 4, LOWEST, HIGHEST}) {
-            changesNothing("series " + s, Scenes::rich, x -> x.rise(s, 0, 500), NO);
-        }
+        noSuchWindow((x, a, b) -> x.rise(3, a, b), NO);
+        noSuchSeries((x, s) -> x.rise(s, 0, 500), NO);
     }
 }

@@ -161,12 +161,7 @@ public final class Promise22LevelTest extends Edges {
 
     private static void refusals() {
         sentence("NO: no such SERIES, a, b as of count()");
-        int[][] bad = {{-1, 500}, {5, 5}, {5, 4}, {0, 0}, {LOWEST, HIGHEST}, {HIGHEST, HIGHEST}};
-        for (int[] w : bad) {
-            changesNothing("a " + w[0] + ", b " + w[1], Scenes::rich, x -> x.level(2, w[0], w[1], 3), NO);
-        }
-        for (int s : new int[] {-1, 4, LOWEST, HIGHEST}) {
-            changesNothing("series " + s, Scenes::rich, x -> x.level(s, 0, 500, 3), NO);
-        }
+        noSuchWindow((x, a, b) -> x.level(2, a, b, 3), NO);
+        noSuchSeries((x, s) -> x.level(s, 0, 500, 3), NO);
     }
 }

@@ -103,13 +103,8 @@ public final class Promise23ValueTest extends Edges {
     private static void refusals() {
         sentence("NO: no such SERIES, a, b as of count()");
         due("a 0, b 1", Scenes.rich().value(3, 0, 1, true), 0);
-        int[][] bad = {{-1, 500}, {5, 5}, {5, 4}, {0, 0}, {LOWEST, HIGHEST}, {HIGHEST, HIGHEST}};
-        for (int[] w : bad) {
-            changesNothing("first, a " + w[0] + ", b " + w[1], Scenes::rich, x -> x.value(0, w[0], w[1], false), NO);
-            changesNothing("last, a " + w[0] + ", b " + w[1], Scenes::rich, x -> x.value(0, w[0], w[1], true), NO);
-        }
-        for (int s : new int[] {-1, 4, LOWEST, HIGHEST}) {
-            changesNothing("series " + s, Scenes::rich, x -> x.value(s, 0, 500, true), NO);
-        }
+        noSuchWindow((x, a, b) -> x.value(0, a, b, false), NO);
+        noSuchWindow((x, a, b) -> x.value(0, a, b, true), NO);
+        noSuchSeries((x, s) -> x.value(s, 0, 500, true), NO);
     }
 }

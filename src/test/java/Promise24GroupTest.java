@@ -47,14 +47,8 @@ public final class Promise24GroupTest extends Edges {
     private static void windows() {
         sentence("NO: a, b");
         due("a 0, b 1", Scenes.rich().group(0, 0, 0, 1, 1), 0);
-        int[][] bad = {{-1, 500}, {5, 5}, {5, 4}, {0, 0}, {LOWEST, HIGHEST}, {HIGHEST, HIGHEST}};
-        for (int[] w : bad) {
-            for (int what = 0; what < 2; what++) {
-                int of = what;
-                changesNothing("a " + w[0] + ", b " + w[1] + ", what " + of, Scenes::rich,
-                    x -> x.group(0, 0, w[0], w[1], of), NO);
-            }
-        }
+        noSuchWindow((x, a, b) -> x.group(0, 0, a, b, 0), NO);
+        noSuchWindow((x, a, b) -> x.group(0, 0, a, b, 1), NO);
     }
 
     private static void noneHasIt() {

@@ -60,23 +60,6 @@ public final class PromisesTest {
         }
     }
 
-    private static NumberRiver with(int... kinds) {
-        NumberRiver x = new NumberRiver();
-        for (int kind : kinds) {
-            x.series(kind);
-        }
-        return x;
-    }
-
-    /** One series of n points: times 0, step, 2 step, ..; values 0, 1, 2, .. */
-    private static NumberRiver counted(int kind, int step, int n) {
-        NumberRiver x = with(kind);
-        for (int done = 0; done < n; done += 40) {
-            x.fill(0, done * step, step, done, 1, Math.min(40, n - done));
-        }
-        return x;
-    }
-
     private static void newObject() {
         promise = 1;
         NumberRiver x = new NumberRiver();
@@ -89,7 +72,7 @@ public final class PromisesTest {
         due("STATE", NumberRiver.STATE, -4);
         due("FULL", NumberRiver.FULL, -5);
         due("NO", NumberRiver.NO, Long.MIN_VALUE);
-        NumberRiver y = with(WHOLE);
+        NumberRiver y = Scenes.with(WHOLE);
         due("objects are apart", x.about(-1, 0), 0);
         due("objects are apart", y.about(-1, 0), 1);
     }
@@ -113,7 +96,7 @@ public final class PromisesTest {
 
     private static void label() {
         promise = 3;
-        NumberRiver x = with(WHOLE, WHOLE);
+        NumberRiver x = Scenes.with(WHOLE, WHOLE);
         due("first label", x.label(0, 0, 0), 0);
         due("label 0 was", x.label(0, 0, 15), 1);
         due("label 15 was", x.label(0, 0, -1), 16);
@@ -131,7 +114,7 @@ public final class PromisesTest {
 
     private static void match() {
         promise = 4;
-        NumberRiver x = with(0, 0, 0, 0);
+        NumberRiver x = Scenes.with(0, 0, 0, 0);
         x.label(0, 2, 5);
         x.label(2, 2, 5);
         x.label(3, 2, 5);
@@ -159,7 +142,7 @@ public final class PromisesTest {
 
     private static void put() {
         promise = 5;
-        NumberRiver x = with(WHOLE, FLAG, LEVEL, SUM);
+        NumberRiver x = Scenes.with(WHOLE, FLAG, LEVEL, SUM);
         due("time -1", x.put(0, -1, 0), BAD);
         due("time above all", x.put(0, LAST_TIME + 1, 0), BAD);
         due("value above all", x.put(0, 5, TOP + 1), BAD);
@@ -193,7 +176,7 @@ public final class PromisesTest {
 
     private static void putAtTheLimits() {
         promise = 5;
-        NumberRiver x = counted(WHOLE, 2, 300);
+        NumberRiver x = Scenes.counted(WHOLE, 2, 300);
         due("300 are main", x.about(0, 4), 300);
         due("one more", x.put(0, 600, 0), FULL);
         due("a bad one more", x.put(0, 600, TOP + 1), BAD);
@@ -210,7 +193,7 @@ public final class PromisesTest {
 
     private static void putBesideTornBlocks() {
         promise = 5;
-        NumberRiver x = with(WHOLE);
+        NumberRiver x = Scenes.with(WHOLE);
         x.put(0, 10, 1);
         x.put(0, 20, 2);
         x.tear(0, 0, 0, 128);
@@ -227,7 +210,7 @@ public final class PromisesTest {
         due("16 in the last block", x.block(0, 1, 0), 16);
         due("one more", x.put(0, 37, 0), 1);
         due("makes a block", x.about(0, 1), 3);
-        NumberRiver y = with(WHOLE);
+        NumberRiver y = Scenes.with(WHOLE);
         for (int t = 0; t < 200; t++) {
             due("put " + t, y.put(0, t, t), 1);
             y.tear(0, t, 3, 1);
@@ -238,7 +221,7 @@ public final class PromisesTest {
 
     private static void fill() {
         promise = 6;
-        NumberRiver x = with(WHOLE, FLAG);
+        NumberRiver x = Scenes.with(WHOLE, FLAG);
         due("40", x.fill(0, 5, 3, 7, -2, 40), 40);
         due("first time", x.point(0, 0, 0, 0), 5);
         due("last time", x.point(0, 2, 7, 0), 5 + 39 * 3);
@@ -264,14 +247,14 @@ public final class PromisesTest {
         due("by kind", x.fill(1, 0, 1, 0, 1, 5), 2);
         due("one", x.fill(1, 5, 1, 0, 1, 1), 1);
         due("one of 40 at the least step", x.fill(1, 6, 1, 1, 0, 40), 40);
-        NumberRiver y = counted(WHOLE, 1, 290);
+        NumberRiver y = Scenes.counted(WHOLE, 1, 290);
         due("till it is full", y.fill(0, 290, 1, 0, 0, 40), 10);
         due("300", y.about(0, 4), 300);
     }
 
     private static void merge() {
         promise = 7;
-        NumberRiver x = with(WHOLE, WHOLE);
+        NumberRiver x = Scenes.with(WHOLE, WHOLE);
         due("no series", x.merge(2), NONE);
         due("of nothing", x.merge(0), 0);
         x.fill(0, 10, 10, 1, 1, 20);
@@ -302,7 +285,7 @@ public final class PromisesTest {
 
     private static void mergeAtTheLastTime() {
         promise = 7;
-        NumberRiver x = counted(WHOLE, 10, 20);
+        NumberRiver x = Scenes.counted(WHOLE, 10, 20);
         x.put(0, 190, -4);
         due("a late one of the last time", x.merge(0), 20);
         due("its value", x.point(0, 1, 3, 1), -4);
@@ -319,7 +302,7 @@ public final class PromisesTest {
 
     private static void mergeAtTheLimits() {
         promise = 7;
-        NumberRiver x = counted(WHOLE, 2, 299);
+        NumberRiver x = Scenes.counted(WHOLE, 2, 299);
         x.put(0, 0, 5);
         x.put(0, 3, 5);
         due("300", x.merge(0), 300);
@@ -336,7 +319,7 @@ public final class PromisesTest {
 
     private static void thin() {
         promise = 8;
-        NumberRiver x = with(WHOLE);
+        NumberRiver x = Scenes.with(WHOLE);
         x.fill(0, 3, 7, 10, -1, 20);
         // Times 3, 10, 17, .. 136; below 40: 3 | 10 17 | 24 | 31 38.
         due("four stretches of ten", x.thin(0, 40, 10), 4);
@@ -355,7 +338,7 @@ public final class PromisesTest {
         due("no blocks", x.about(0, 1), 0);
         due("the last end", x.span(0, 13, 1), 140);
         due("put behind it", x.put(0, 140, 0), 1);
-        NumberRiver y = with(WHOLE);
+        NumberRiver y = Scenes.with(WHOLE);
         due("of nothing", y.thin(0, 0, 1), 0);
         y.put(0, 0, 1);
         y.tear(0, 0, 0, 1);
@@ -364,7 +347,7 @@ public final class PromisesTest {
         due("two blocks", y.about(0, 1), 2);
         due("nothing below", y.thin(0, 0, 1_000_000), 0);
         due("in blocks anew", y.about(0, 1), 1);
-        NumberRiver z = with(WHOLE);
+        NumberRiver z = Scenes.with(WHOLE);
         z.put(0, 0, 4);
         z.put(0, 49, 5);
         z.put(0, 50, 6);
@@ -374,7 +357,7 @@ public final class PromisesTest {
 
     private static void thinRefused() {
         promise = 8;
-        NumberRiver x = with(WHOLE);
+        NumberRiver x = Scenes.with(WHOLE);
         x.fill(0, 0, 5, 0, 1, 20);
         due("no series", x.thin(1, 1, 0), NONE);
         due("w 0", x.thin(0, 0, 0), BAD);
@@ -399,7 +382,7 @@ public final class PromisesTest {
 
     private static void thinAtTheLimits() {
         promise = 8;
-        NumberRiver x = counted(WHOLE, 1, 100);
+        NumberRiver x = Scenes.counted(WHOLE, 1, 100);
         due("61 would be", x.thin(0, 61, 1), FULL);
         due("none is", x.about(0, 2), 0);
         due("all points stay", x.about(0, 4), 100);
@@ -409,12 +392,12 @@ public final class PromisesTest {
         due("nothing more", x.thin(0, 60, 60), 60);
         x.put(0, 70, 1);
         due("late before full", x.thin(0, 61, 1), STATE);
-        due("greatest width", counted(WHOLE, 1, 3).thin(0, 1_000_000, 1_000_000), 1);
+        due("greatest width", Scenes.counted(WHOLE, 1, 3).thin(0, 1_000_000, 1_000_000), 1);
     }
 
     private static void drop() {
         promise = 9;
-        NumberRiver x = with(WHOLE);
+        NumberRiver x = Scenes.with(WHOLE);
         due("no series", x.drop(1, 0), NONE);
         due("nothing", x.drop(0, Integer.MAX_VALUE), 0);
         x.fill(0, 0, 1, 0, 1, 40);
@@ -447,7 +430,7 @@ public final class PromisesTest {
         due("a block used again has its own bits", x.block(0, 0, 6), 96);
         due("and is not torn", x.block(0, 0, 5), 0);
         due("its point", x.point(0, 0, 0, 1), 9);
-        NumberRiver z = with(WHOLE);
+        NumberRiver z = Scenes.with(WHOLE);
         z.put(0, 5, 1);
         z.tear(0, 0, 11, 255);
         due("a torn one alone", z.drop(0, 6), 1);
@@ -455,7 +438,7 @@ public final class PromisesTest {
         due("its place is whole again", z.block(0, 0, 5), 0);
         due("its byte too", z.at(0, 0, 11), 1);
         due("its check too", z.block(0, 0, 4), 6);
-        NumberRiver y = counted(WHOLE, 1, 48);
+        NumberRiver y = Scenes.counted(WHOLE, 1, 48);
         y.thin(0, 8, 8);
         y.tear(0, 0, 0, 1);
         y.put(0, 30, -1);
@@ -482,7 +465,7 @@ public final class PromisesTest {
 
     private static void block() {
         promise = 10;
-        NumberRiver x = with(WHOLE);
+        NumberRiver x = Scenes.with(WHOLE);
         x.put(0, 1, 2);
         x.put(0, 2, 2);
         // 1 by 32, 2 by 64, then D = 1: 10 1000000, X = 0: 0; behind it 6 zeros.
@@ -503,14 +486,14 @@ public final class PromisesTest {
         due("check as it was made", x.block(0, 0, 4), 1 + 2 + 0xA0);
         due("torn", x.block(0, 0, 5), 1);
         due("bits as they were made", x.block(0, 0, 6), 106);
-        NumberRiver y = with(WHOLE);
+        NumberRiver y = Scenes.with(WHOLE);
         y.put(0, 255, -1);
         due("check modulo 256", y.block(0, 0, 4), (255 + 8 * 255) % 256);
     }
 
     /** What the third point costs if its step is by d other than the second one's, 5000. */
     private static int timeCost(int d) {
-        NumberRiver x = with(WHOLE);
+        NumberRiver x = Scenes.with(WHOLE);
         x.put(0, 0, 0);
         x.put(0, 5000, 0);
         x.put(0, 10000 + d, 0);
@@ -526,7 +509,7 @@ public final class PromisesTest {
             due("bits of " + d[i], timeCost(d[i]), bits[i]);
         }
         promise = 12;
-        NumberRiver x = with(WHOLE);
+        NumberRiver x = Scenes.with(WHOLE);
         x.put(0, 0, 0);
         x.put(0, 5000, 0);
         x.put(0, 5001, 0);
@@ -546,7 +529,7 @@ public final class PromisesTest {
 
     private static void bitsOfValues() {
         promise = 14;
-        NumberRiver x = with(WHOLE);
+        NumberRiver x = Scenes.with(WHOLE);
         x.put(0, 0, 0);
         x.put(0, 1, 0b0110_1000);
         due("a frame of four", x.cost(0, 0, 1), 9 + 2 + 6 + 6 + 4);
@@ -571,7 +554,7 @@ public final class PromisesTest {
         x.put(0, 21, 0);
         due("a new block has no frame", x.cost(0, 1, 1), 9 + 2 + 12 + 1);
         promise = 12;
-        NumberRiver y = with(WHOLE);
+        NumberRiver y = Scenes.with(WHOLE);
         y.put(0, 0, 0);
         y.put(0, 1, 0b1011_0000);
         // 10 1000000 1 1, 56 zeros: 111000, 4 bits: 000011, 1011, and zeros behind.
@@ -585,7 +568,7 @@ public final class PromisesTest {
     /** Steps that change by far each time, and frames that grow from 53 to 64 bits. */
     private static void dearestBlock() {
         promise = 15;
-        NumberRiver x = with(WHOLE);
+        NumberRiver x = Scenes.with(WHOLE);
         int[] times = new int[16];
         long[] values = new long[16];
         for (int k = 1; k < 16; k++) {
@@ -609,7 +592,7 @@ public final class PromisesTest {
 
     private static void head() {
         promise = 11;
-        NumberRiver x = with(WHOLE);
+        NumberRiver x = Scenes.with(WHOLE);
         x.put(0, 1, 5);
         due("least of one", x.head(0, 0, 0), 5);
         due("greatest of one", x.head(0, 0, 1), 5);
@@ -631,7 +614,7 @@ public final class PromisesTest {
 
     private static void at() {
         promise = 12;
-        NumberRiver x = with(WHOLE);
+        NumberRiver x = Scenes.with(WHOLE);
         x.put(0, 0x01020384, -2);
         due("byte 0", x.at(0, 0, 0), 1);
         due("byte 1", x.at(0, 0, 1), 2);
@@ -649,7 +632,7 @@ public final class PromisesTest {
 
     private static void tear() {
         promise = 13;
-        NumberRiver x = with(WHOLE);
+        NumberRiver x = Scenes.with(WHOLE);
         x.put(0, 0x0F, 1);
         due("turned", x.tear(0, 0, 3, 0xFF), 0xF0);
         due("torn", x.block(0, 0, 5), 1);
@@ -677,7 +660,7 @@ public final class PromisesTest {
 
     private static void cost() {
         promise = 14;
-        NumberRiver x = with(WHOLE);
+        NumberRiver x = Scenes.with(WHOLE);
         x.fill(0, 0, 1, 3, 0, 16);
         due("first", x.cost(0, 0, 0), 96);
         due("second", x.cost(0, 0, 1), 10);
@@ -697,7 +680,7 @@ public final class PromisesTest {
 
     private static void point() {
         promise = 15;
-        NumberRiver x = with(WHOLE);
+        NumberRiver x = Scenes.with(WHOLE);
         int[] times = {0, 1, 3, 70, 400, 3000, 3001, 5000, 900_000_000, 900_000_001, LAST_TIME};
         long[] values = {-TOP, TOP, 0, -1, 1, 1, 4096, -4096, TOP - 1, 7, 7};
         for (int k = 0; k < times.length; k++) {
@@ -724,7 +707,7 @@ public final class PromisesTest {
 
     private static void late() {
         promise = 16;
-        NumberRiver x = with(WHOLE);
+        NumberRiver x = Scenes.with(WHOLE);
         due("none yet", x.late(0, 0, 0), NO);
         x.put(0, 100, 0);
         x.put(0, 50, -5);
@@ -748,7 +731,7 @@ public final class PromisesTest {
 
     private static void span() {
         promise = 17;
-        NumberRiver x = with(WHOLE);
+        NumberRiver x = Scenes.with(WHOLE);
         long[] values = {4, -9, 12, 6};
         for (int k = 0; k < 4; k++) {
             x.put(0, 100 + k, values[k]);
@@ -779,7 +762,7 @@ public final class PromisesTest {
 
     private static void count() {
         promise = 18;
-        NumberRiver x = counted(WHOLE, 10, 60);
+        NumberRiver x = Scenes.counted(WHOLE, 10, 60);
         x.thin(0, 200, 100);
         // Spans 0 .. 99, 100 .. 199; blocks 200 .. 350, 360 .. 510, 520 .. 590.
         due("all", x.count(0, 0, 591), 60);
@@ -800,12 +783,12 @@ public final class PromisesTest {
         due("a -1", x.count(0, -1, 4), BAD);
         due("series 1", x.count(1, -1, 4), NONE);
         due("series -1", x.count(-1, 0, 4), NONE);
-        due("of nothing", with(WHOLE).count(0, 0, 1), 0);
+        due("of nothing", Scenes.with(WHOLE).count(0, 0, 1), 0);
     }
 
     private static void sum() {
         promise = 19;
-        NumberRiver x = counted(WHOLE, 10, 60);
+        NumberRiver x = Scenes.counted(WHOLE, 10, 60);
         x.thin(0, 200, 100);
         due("all", x.sum(0, 0, 600), sumOf(0, 59));
         due("a cut span counts not", x.sum(0, 1, 600), sumOf(10, 59));
@@ -822,7 +805,7 @@ public final class PromisesTest {
 
     private static void least() {
         promise = 20;
-        NumberRiver x = counted(WHOLE, 10, 60);
+        NumberRiver x = Scenes.counted(WHOLE, 10, 60);
         x.thin(0, 200, 100);
         due("least of all", x.least(0, 0, 600, false), 0);
         due("greatest of all", x.least(0, 0, 600, true), 59);
@@ -847,7 +830,7 @@ public final class PromisesTest {
 
     private static void rise() {
         promise = 21;
-        NumberRiver x = with(SUM, WHOLE, FLAG, LEVEL);
+        NumberRiver x = Scenes.with(SUM, WHOLE, FLAG, LEVEL);
         long[] values = {5, 9, 9, 2, 8, 0, 1};
         for (int k = 0; k < values.length; k++) {
             x.put(0, 10 * k, values[k]);
@@ -876,7 +859,7 @@ public final class PromisesTest {
 
     private static void level() {
         promise = 22;
-        NumberRiver x = with(LEVEL, WHOLE, FLAG, SUM);
+        NumberRiver x = Scenes.with(LEVEL, WHOLE, FLAG, SUM);
         x.put(0, 10, 1);
         x.put(0, 20, -2);
         x.put(0, 30, 1);
@@ -916,7 +899,7 @@ public final class PromisesTest {
 
     private static void value() {
         promise = 23;
-        NumberRiver x = counted(WHOLE, 10, 40);
+        NumberRiver x = Scenes.counted(WHOLE, 10, 40);
         due("first", x.value(0, 0, 400, false), 0);
         due("last", x.value(0, 0, 400, true), 39);
         due("first of a part", x.value(0, 11, 30, false), 2);
@@ -939,7 +922,7 @@ public final class PromisesTest {
 
     private static void group() {
         promise = 24;
-        NumberRiver x = with(WHOLE, LEVEL, SUM);
+        NumberRiver x = Scenes.with(WHOLE, LEVEL, SUM);
         due("none has it", x.group(3, 15, 0, 100, 0), 0);
         due("none has it", x.group(3, 15, 0, 100, 1), 0);
         x.fill(0, 0, 1, 10, 0, 5);
@@ -971,7 +954,7 @@ public final class PromisesTest {
 
     private static void scan() {
         promise = 25;
-        NumberRiver x = counted(LEVEL, 10, 60);
+        NumberRiver x = Scenes.counted(LEVEL, 10, 60);
         scans(x, "nothing", 0, 0, 0);
         due("scan(3)", x.scan(3), NONE);
         due("scan(-1)", x.scan(-1), NONE);
@@ -1014,7 +997,7 @@ public final class PromisesTest {
         x.put(0, 590, 4);
         x.count(0, 520, 591);
         scans(x, "a late one at a block's last time", 8, 0, 0);
-        NumberRiver y = counted(SUM, 10, 20);
+        NumberRiver y = Scenes.counted(SUM, 10, 20);
         y.rise(0, 150, 151);
         scans(y, "rise", 16, 0, 0);
         y.series(WHOLE);
@@ -1031,7 +1014,7 @@ public final class PromisesTest {
 
     private static void scanOfRefused() {
         promise = 25;
-        NumberRiver x = counted(SUM, 10, 20);
+        NumberRiver x = Scenes.counted(SUM, 10, 20);
         x.count(0, 0, 11);
         x.count(0, 5, 5);
         x.count(1, 0, 5);
@@ -1049,7 +1032,7 @@ public final class PromisesTest {
 
     private static void scanOfTorn() {
         promise = 25;
-        NumberRiver x = counted(LEVEL, 10, 48);
+        NumberRiver x = Scenes.counted(LEVEL, 10, 48);
         x.tear(0, 0, 0, 1);
         x.tear(0, 1, 0, 1);
         x.count(0, 0, 480);
@@ -1062,7 +1045,7 @@ public final class PromisesTest {
         scans(x, "value", 0, 0, 1);
         x.level(0, 310, 321, 1);
         scans(x, "level: a torn one before the window is not told", 16, 0, 1);
-        NumberRiver y = counted(SUM, 10, 32);
+        NumberRiver y = Scenes.counted(SUM, 10, 32);
         y.tear(0, 0, 0, 1);
         y.rise(0, 0, 161);
         scans(y, "rise", 16, 0, 1);
@@ -1070,7 +1053,7 @@ public final class PromisesTest {
 
     private static void about() {
         promise = 26;
-        NumberRiver x = with(FLAG, SUM);
+        NumberRiver x = Scenes.with(FLAG, SUM);
         due("how many series", x.about(-1, 0), 2);
         due("series -1, what 1", x.about(-1, 1), NONE);
         due("series -1, what -1", x.about(-1, -1), NONE);
@@ -1102,7 +1085,7 @@ public final class PromisesTest {
         for (int p : odd) {
             for (int q : odd) {
                 for (int r : odd) {
-                    NumberRiver x = counted(SUM, 10, 40);
+                    NumberRiver x = Scenes.counted(SUM, 10, 40);
                     x.put(0, 5, 1);
                     answerAll(x, p, q, r);
                     answerAll(x, 0, p, q);

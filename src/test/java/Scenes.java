@@ -73,4 +73,17 @@ final class Scenes {
         x.thin(0, 60, 1);
         return x;
     }
+
+    /** 20 points, each in a block of its own: each block was torn as the next point came. */
+    static NumberRiver manyBlocks() {
+        NumberRiver x = with(0);
+        for (int k = 0; k < 20; k++) {
+            x.put(0, 10 * k, k);
+            x.tear(0, k, 0, 1);
+        }
+        for (int k = 0; k < 20; k++) {
+            x.tear(0, k, 0, 1);
+        }
+        return x;
+    }
 }
