@@ -1,3 +1,5 @@
+import java.util.function.ToLongFunction;
+
 /** Promise 4, match: which i, keys and values find a series, and which find none. */
 public final class Promise04MatchTest extends Edges {
     public static void main(String[] args) {
@@ -25,16 +27,20 @@ public final class Promise04MatchTest extends Edges {
         return x;
     }
 
+    private static void none(String what, ToLongFunction<NumberRiver> call) {
+        changesNothing(what, Promise04MatchTest::labelled, call, NONE);
+    }
+
     private static void fromZeroOn() {
         sentence("The i-th SERIES, by numbers, from 0 on; NONE");
         NumberRiver x = labelled();
         due("i 0", x.match(2, 5, -1, 0, 0), 1);
         due("i 1", x.match(2, 5, -1, 0, 1), 2);
         due("i 2, the last", x.match(2, 5, -1, 0, 2), 4);
-        due("i 3", x.match(2, 5, -1, 0, 3), NONE);
-        due("i -1", x.match(2, 5, -1, 0, -1), NONE);
-        due("i lowest", x.match(2, 5, -1, 0, LOWEST), NONE);
-        due("i highest", x.match(2, 5, -1, 0, HIGHEST), NONE);
+        none("i 3", y -> y.match(2, 5, -1, 0, 3));
+        none("i -1", y -> y.match(2, 5, -1, 0, -1));
+        none("i lowest", y -> y.match(2, 5, -1, 0, LOWEST));
+        none("i highest", y -> y.match(2, 5, -1, 0, HIGHEST));
     }
 
     private static void eightSeries() {
@@ -54,7 +60,7 @@ public final class Promise04MatchTest extends Edges {
         due("key 7", x.match(7, 15, -1, 0, 1), 4);
         for (int key : new int[] {-1, 8, LOWEST, HIGHEST}) {
             for (int v : new int[] {-1, 0, 5}) {
-                due("key " + key + ", value " + v, x.match(key, v, -1, 0, 0), NONE);
+                none("key " + key + ", value " + v, y -> y.match(key, v, -1, 0, 0));
             }
         }
     }
@@ -64,10 +70,10 @@ public final class Promise04MatchTest extends Edges {
         NumberRiver x = labelled();
         due("value 0", x.match(0, 0, -1, 0, 1), 4);
         due("value 15", x.match(7, 15, -1, 0, 0), 2);
-        due("value 14, that none has", x.match(7, 14, -1, 0, 0), NONE);
-        due("value 16", x.match(7, 16, -1, 0, 0), NONE);
-        due("having none is no label", x.match(7, -1, -1, 0, 0), NONE);
-        due("value -2", x.match(7, -2, -1, 0, 0), NONE);
+        none("value 14, that none has", y -> y.match(7, 14, -1, 0, 0));
+        none("value 16", y -> y.match(7, 16, -1, 0, 0));
+        none("having none is no label", y -> y.match(7, -1, -1, 0, 0));
+        none("value -2", y -> y.match(7, -2, -1, 0, 0));
     }
 
     private static void otherFromZeroOn() {
@@ -77,22 +83,22 @@ public final class Promise04MatchTest extends Edges {
         due("other lowest is not asked", x.match(2, 5, LOWEST, 9, 0), 1);
         due("other 0 is asked", x.match(2, 5, 0, 0, 0), 2);
         due("other 0, i 1", x.match(2, 5, 0, 0, 1), 4);
-        due("other 0, i 2", x.match(2, 5, 0, 0, 2), NONE);
+        none("other 0, i 2", y -> y.match(2, 5, 0, 0, 2));
         due("other 7 is asked", x.match(2, 5, 7, 15, 1), 4);
-        due("other 8 is no key", x.match(2, 5, 8, 0, 0), NONE);
-        due("other highest is no key", x.match(2, 5, HIGHEST, 0, 0), NONE);
+        none("other 8 is no key", y -> y.match(2, 5, 8, 0, 0));
+        none("other highest is no key", y -> y.match(2, 5, HIGHEST, 0, 0));
         due("the same key twice", x.match(2, 5, 2, 5, 0), 1);
-        due("the same key, another value", x.match(2, 5, 2, 4, 0), NONE);
+        none("the same key, another value", y -> y.match(2, 5, 2, 4, 0));
     }
 
     private static void otherValues() {
         sentence("w of that other KEY");
         NumberRiver x = labelled();
         due("w 15", x.match(2, 5, 7, 15, 0), 2);
-        due("w 16", x.match(2, 5, 7, 16, 0), NONE);
+        none("w 16", y -> y.match(2, 5, 7, 16, 0));
         due("w 0", x.match(2, 5, 0, 0, 0), 2);
-        due("having none is no label", x.match(2, 5, 0, -1, 0), NONE);
-        due("w alone is not enough", x.match(2, 6, 0, 0, 0), NONE);
+        none("having none is no label", y -> y.match(2, 5, 0, -1, 0));
+        none("w alone is not enough", y -> y.match(2, 6, 0, 0, 0));
     }
 
     private static void changeNothing() {

@@ -25,13 +25,13 @@ public final class Promise12AtTest extends Edges {
         x.put(0, 0x01020304, 9);
         due("byte 0", x.at(0, 0, 0), 1);
         due("byte 11, the last", x.at(0, 0, 11), 9);
-        for (int k : new int[] {-1, 12, LOWEST, HIGHEST}) {
-            due("byte " + k, x.at(0, 0, k), NONE);
+        due("byte 12", x.at(0, 0, 12), NONE);
+        for (int k : new int[] {-1, LOWEST, HIGHEST}) {
+            changesNothing("byte " + k, Scenes::rich, y -> y.at(0, 0, k), NONE);
         }
         x.put(0, 0x01020305, 9);
         due("106 bits: byte 13", x.at(0, 0, 13), 0);
         due("106 bits: byte 14", x.at(0, 0, 14), NONE);
-        changesNothing("byte -1", Scenes::rich, y -> y.at(0, 0, -1), NONE);
         changesNothing("one behind the last", Scenes::rich, y -> y.at(0, 0, y.block(0, 0, 3)), NONE);
     }
 
@@ -40,9 +40,8 @@ public final class Promise12AtTest extends Edges {
         NumberRiver x = Scenes.counted(WHOLE, 10, 17);
         due("the last", x.at(0, 1, 3), 160);
         for (int i : new int[] {-1, 2, LOWEST, HIGHEST}) {
-            due("block " + i, x.at(0, i, 0), NONE);
+            changesNothing("block " + i, Scenes::rich, y -> y.at(0, i, 0), NONE);
         }
-        changesNothing("none such", Scenes::rich, y -> y.at(0, 2, 0), NONE);
     }
 
     private static void whichSeries() {

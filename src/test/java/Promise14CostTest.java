@@ -21,13 +21,13 @@ public final class Promise14CostTest extends Edges {
         due("point 0", x.cost(0, 0, 0), 96);
         due("point 15, the last", x.cost(0, 0, 15), 1 + 2 + 4);
         for (int k : new int[] {-1, 16, LOWEST, HIGHEST}) {
-            due("point " + k, x.cost(0, 0, k), NONE);
+            changesNothing("point " + k, Scenes::rich, y -> y.cost(0, 0, k), NONE);
         }
-        NumberRiver y = Scenes.counted(WHOLE, 10, 3);
-        due("point 2 of 3", y.cost(0, 0, 2), 1 + 2 + 12 + 2);
-        due("point 3 of 3", y.cost(0, 0, 3), NONE);
-        changesNothing("none such", Scenes::rich, z -> z.cost(0, 1, 15), NONE);
-        changesNothing("one that is there", Scenes::rich, z -> z.cost(0, 0, 0), 96);
+        NumberRiver z = Scenes.counted(WHOLE, 10, 3);
+        due("point 2 of 3", z.cost(0, 0, 2), 1 + 2 + 12 + 2);
+        due("point 3 of 3", z.cost(0, 0, 3), NONE);
+        changesNothing("none such", Scenes::rich, y -> y.cost(0, 1, 15), NONE);
+        changesNothing("one that is there", Scenes::rich, y -> y.cost(0, 0, 0), 96);
     }
 
     private static void whichBlock() {

@@ -31,13 +31,13 @@ public final class Promise15PointTest extends Edges {
         due("point 0", x.point(0, 0, 0, 0), 0);
         due("point 15, the last", x.point(0, 0, 15, 0), 150);
         for (int k : new int[] {-1, 16, LOWEST, HIGHEST}) {
-            due("point " + k, x.point(0, 0, k, 0), NO);
+            changesNothing("point " + k, Scenes::rich, y -> y.point(0, 0, k, 0), NO);
         }
-        NumberRiver y = Scenes.counted(WHOLE, 10, 3);
-        due("point 2 of 3", y.point(0, 0, 2, 1), 2);
-        due("point 3 of 3", y.point(0, 0, 3, 1), NO);
-        changesNothing("none such", Scenes::rich, z -> z.point(0, 1, 15, 0), NO);
-        changesNothing("one that is there", Scenes::rich, z -> z.point(0, 1, 14, 0), 400);
+        NumberRiver z = Scenes.counted(WHOLE, 10, 3);
+        due("point 2 of 3", z.point(0, 0, 2, 1), 2);
+        due("point 3 of 3", z.point(0, 0, 3, 1), NO);
+        changesNothing("none such", Scenes::rich, y -> y.point(0, 1, 15, 0), NO);
+        changesNothing("one that is there", Scenes::rich, y -> y.point(0, 1, 14, 0), 400);
     }
 
     private static void whichBlock() {
