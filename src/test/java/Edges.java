@@ -102,6 +102,16 @@ abstract class Edges {
         }
     }
 
+    /** The rich river was asked something last; asked that again, it is as if it had not been asked this. */
+    static void leavesOnlyItsScan(String what, ToLongFunction<NumberRiver> question) {
+        same(what + " leaves something behind", Scenes::rich, () -> {
+            NumberRiver x = Scenes.rich();
+            question.applyAsLong(x);
+            Scenes.askLast(x);
+            return x;
+        });
+    }
+
     /** What the latest question scanned, which spans it cut, which torn blocks it met. */
     static void dueScans(String what, NumberRiver x, int scanned, int cut, int torn) {
         due(what + ", scan(0)", x.scan(0), scanned);

@@ -1,18 +1,28 @@
+import java.lang.reflect.Method;
+import java.lang.reflect.Modifier;
 import java.util.ArrayList;
 import java.util.Arrays;
+import java.util.Comparator;
 import java.util.List;
 import java.util.Random;
 import java.util.TreeMap;
 
 /**
  * Long runs of calls, drawn from fixed seeds, answered by NumberRiver and by a plain model
- * that keeps its bits as texts and its points unpacked; every answer must be the same.
+ * that keeps its bits as texts and its points unpacked; every answer must be the same. In every
+ * third run a part of the calls has numbers from all over, and none of them may throw.
  */
 public final class ModelTest {
     private static final int RUNS = 1200;
     // What an object answers behind its 512th call is free; a step makes up to seven.
     private static final int CALLS = 512;
     private static final int MOST_OF_A_STEP = 7;
+    private static final int[] WILD = {Integer.MIN_VALUE, Integer.MIN_VALUE + 1, -1_000_000_001, -16, -2, -1, 0, 0, 0,
+        1, 1, 2, 3, 4, 6, 7, 8, 10, 15, 16, 20, 40, 41, 50, 60, 100, 225, 226, 255, 256, 300, 1000, 1_000_000,
+        1_000_001, 999_999_999, 1_000_000_000, 1_000_000_001, Integer.MAX_VALUE - 1, Integer.MAX_VALUE};
+    private static final long[] WILD_VALUES = {Long.MIN_VALUE, Long.MIN_VALUE + 1, -1_000_000_000_001L,
+        -1_000_000_000_000L, -1, 0, 1, 2, 3, 777, 1L << 32, 1_000_000_000_000L, 1_000_000_000_001L, Long.MAX_VALUE};
+    private static final Method[] FACE = face();
     private static int wrong = 0;
     private static int run = 0;
     private static final List<String> calls = new ArrayList<>();
@@ -32,6 +42,14 @@ public final class ModelTest {
                 }
             }
         }
+    }
+
+    /** The public calls, always in the same order, as reflection promises none. */
+    private static Method[] face() {
+        return Arrays.stream(NumberRiver.class.getDeclaredMethods())
+            .filter(m -> Modifier.isPublic(m.getModifiers()))
+            .sorted(Comparator.comparing(Method::getName))
+            .toArray(Method[]::new);
     }
 
     public static void main(String[] args) {
@@ -68,8 +86,43 @@ public final class ModelTest {
                 makeSeries(random.nextInt(4));
             }
             while (calls.size() + MOST_OF_A_STEP <= CALLS) {
-                step();
+                if (run % 3 == 0 && random.nextInt(4) == 0) {
+                    wildStep();
+                } else {
+                    step();
+                }
             }
+        }
+
+        /** Any call, with any numbers; after it, what scan tells, that no refused one changes. */
+        private void wildStep() {
+            Method m = FACE[random.nextInt(FACE.length)];
+            Object[] numbers = new Object[m.getParameterCount()];
+            for (int i = 0; i < numbers.length; i++) {
+                numbers[i] = wildNumber(m.getParameterTypes()[i], i == 0);
+            }
+            String call = m.getName() + Arrays.toString(numbers);
+            try {
+                Method twin = Model.class.getDeclaredMethod(m.getName(), m.getParameterTypes());
+                long want = ((Number) twin.invoke(model, numbers)).longValue();
+                same(call, ((Number) m.invoke(river, numbers)).longValue(), want);
+            } catch (ReflectiveOperationException thrown) {
+                wrong++;
+                System.out.println("run " + run + ": " + call + " threw " + thrown.getCause());
+            }
+            int what = random.nextInt(3);
+            same("scan(" + what + ")", river.scan(what), model.scan(what));
+        }
+
+        /** The first number of most calls is that of a series, which there should be mostly. */
+        private Object wildNumber(Class<?> type, boolean first) {
+            if (type == boolean.class) {
+                return random.nextBoolean();
+            }
+            if (type == long.class) {
+                return WILD_VALUES[random.nextInt(WILD_VALUES.length)];
+            }
+            return first && random.nextInt(4) != 0 ? number() : WILD[random.nextInt(WILD.length)];
         }
 
         private void step() {

@@ -10,6 +10,7 @@ public final class Promise01NewObjectTest extends Edges {
         questionsFindNone();
         objectsAreApart();
         constants();
+        fiveHundredAndTwelveCalls();
         end();
     }
 
@@ -83,5 +84,28 @@ public final class Promise01NewObjectTest extends Edges {
         due("STATE", NumberRiver.STATE, -4);
         due("FULL", NumberRiver.FULL, -5);
         due("NO", NumberRiver.NO, Long.MIN_VALUE);
+    }
+
+    /** A river as full as it gets, and the object's last calls: 8 x (1 + 1 + 8 + 40) + 110 + 2 = 512. */
+    private static void fiveHundredAndTwelveCalls() {
+        sentence("An object is used for at most 512 calls after it has been made");
+        NumberRiver x = new NumberRiver();
+        for (int s = 0; s < 8; s++) {
+            due("call " + (50 * s + 1), x.series(WHOLE), s);
+            due("call " + (50 * s + 2), x.label(s, 7, 15), 0);
+            for (int done = 0; done < 300; done += 40) {
+                int n = Math.min(40, 300 - done);
+                due("filling series " + s, x.fill(s, 2 * done, 2, 1, 0, n), n);
+            }
+            for (int k = 39; k >= 0; k--) {
+                due("late in series " + s, x.put(s, 2 * k, 5), 2);
+            }
+        }
+        for (int k = 0; k < 55; k++) {
+            due("torn", x.tear(k % 8, k % 19, 11, 255), 254);
+            due("mended", x.tear(k % 8, k % 19, 11, 255), 1);
+        }
+        due("call 511", x.merge(7), 300);
+        due("call 512", x.group(7, 15, 0, HIGHEST, 1), 8 * (260 + 40 * 5));
     }
 }

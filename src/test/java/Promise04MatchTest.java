@@ -103,6 +103,8 @@ public final class Promise04MatchTest extends Edges {
 
     private static void changeNothing() {
         sentence("They change nothing.");
+        changesNothing("a match that is found", Scenes::rich, x -> x.match(0, 0, -1, 0, 1), 3);
+        changesNothing("a match of two keys", Scenes::rich, x -> x.match(0, 0, 7, 15, 0), 0);
         changesNothing("no such i", Scenes::rich, x -> x.match(0, 0, -1, 0, 2), NONE);
         changesNothing("no such key", Scenes::rich, x -> x.match(8, 0, -1, 0, 0), NONE);
         changesNothing("no such other key", Scenes::rich, x -> x.match(0, 0, 8, 0, 0), NONE);

@@ -10,6 +10,8 @@ public final class Promise10BlockTest extends Edges {
         checkModulo256();
         byItsHead();
         tornOrNot();
+        inTheOrderOfTimes();
+        tellingChangesNothing();
         end();
     }
 
@@ -115,5 +117,42 @@ public final class Promise10BlockTest extends Edges {
         due("the next is not", x.block(3, 2, 5), 0);
         due("mended", x.tear(3, 1, 0, 128) - x.at(3, 1, 0), 0);
         due("torn no more", x.block(3, 1, 5), 0);
+    }
+
+    private static void risingBlocks(String when, NumberRiver x) {
+        int before = (int) Math.max(-1, x.span(0, x.about(0, 2) - 1, 1) - 1);
+        for (int i = 0; i < x.about(0, 1); i++) {
+            due(when + ": block " + i + " begins above " + before, x.block(0, i, 1) > before ? 1 : 0, 1);
+            due(when + ": block " + i + " ends not below its first", x.block(0, i, 2) >= x.block(0, i, 1) ? 1 : 0, 1);
+            before = x.block(0, i, 2);
+        }
+    }
+
+    private static void inTheOrderOfTimes() {
+        sentence("A SERIES has SPANS, BLOCKS, both in the order of TIMES, SPANS ahead of BLOCKS");
+        NumberRiver x = Scenes.counted(WHOLE, 10, 80);
+        risingBlocks("put", x);
+        for (int time = 785; time > 500; time -= 10) {
+            x.put(0, time, 1);
+        }
+        x.put(0, 790, 2);
+        risingBlocks("with late ones", x);
+        due("merged", x.merge(0), 80 + 29);
+        risingBlocks("merged", x);
+        due("thinned", x.thin(0, 200, 50), 4);
+        risingBlocks("thinned", x);
+        due("dropped", x.drop(0, 400), 5);
+        risingBlocks("dropped", x);
+        due("and one more", x.put(0, 791, 3), 1);
+        risingBlocks("put again", x);
+        due("the last is in the last block", x.block(0, x.about(0, 1) - 1, 2), 791);
+    }
+
+    private static void tellingChangesNothing() {
+        sentence("Nothing is promised beyond the answers and state changes described above");
+        changesNothing("how many in a torn block", Scenes::rich, x -> x.block(3, 1, 0), 16);
+        changesNothing("the first time of a torn block", Scenes::rich, x -> x.block(3, 1, 1), 160);
+        changesNothing("whether it is torn", Scenes::rich, x -> x.block(3, 1, 5), 1);
+        changesNothing("of a block with late points in it", Scenes::rich, x -> x.block(0, 0, 2), 250);
     }
 }

@@ -8,6 +8,7 @@ public final class Promise11HeadTest extends Edges {
         onePoint();
         extremes();
         asItWasMade();
+        tellingChangesNothing();
         end();
     }
 
@@ -78,5 +79,12 @@ public final class Promise11HeadTest extends Edges {
         x.put(0, 0, 1000);
         x.put(0, 155, 1000);
         due("late ones are not in it", x.head(0, 0, 1), 15);
+    }
+
+    private static void tellingChangesNothing() {
+        sentence("Nothing is promised beyond the answers and state changes described above");
+        changesNothing("the least", Scenes::rich, x -> x.head(3, 0, 0), 0);
+        changesNothing("the greatest of a torn block", Scenes::rich, x -> x.head(3, 1, 1), 124);
+        changesNothing("the sum of a block with late points in it", Scenes::rich, x -> x.head(2, 0, 2), 48);
     }
 }

@@ -16,6 +16,7 @@ public final class Promise12AtTest extends Edges {
         framesAtTheirLimits();
         withinTheFrame();
         outsideTheFrame();
+        tellingChangesNothing();
         end();
     }
 
@@ -219,5 +220,12 @@ public final class Promise12AtTest extends Edges {
         NumberRiver x = Scenes.with(WHOLE);
         x.fill(0, 0, 1, 0, 1, 18);
         dueBits("at first none, in a new block", x, 1, "10 1000000 1 1 111111 000000 1");
+    }
+
+    private static void tellingChangesNothing() {
+        sentence("Nothing is promised beyond the answers and state changes described above");
+        changesNothing("a byte", Scenes::rich, x -> x.at(3, 2, 2), 320 / 256);
+        changesNothing("the last byte of a time", Scenes::rich, x -> x.at(3, 2, 3), 320 % 256);
+        changesNothing("the torn byte", Scenes::rich, x -> x.at(3, 1, 0), 128);
     }
 }

@@ -12,6 +12,7 @@ public final class Promise14CostTest extends Edges {
         theFrameStays();
         noFrameAtFirst();
         cheapestAndDearest();
+        tellingChangesNothing();
         end();
     }
 
@@ -151,5 +152,11 @@ public final class Promise14CostTest extends Edges {
             sum += x.cost(0, 0, k);
         }
         due("all together", x.block(0, 0, 6), sum);
+    }
+
+    private static void tellingChangesNothing() {
+        sentence("Nothing is promised beyond the answers and state changes described above");
+        changesNothing("the first point", Scenes::rich, x -> x.cost(3, 0, 0), 96);
+        changesNothing("a point that has the step and the value of the one before", Scenes::rich, x -> x.cost(2, 0, 15), 2);
     }
 }

@@ -12,6 +12,7 @@ public final class Promise15PointTest extends Edges {
         changesOfValue();
         dearestBlock();
         mainPointsAlone();
+        tellingChangesNothing();
         end();
     }
 
@@ -142,5 +143,11 @@ public final class Promise15PointTest extends Edges {
         due("a late one of its time is not it", x.point(0, 0, 1, 1), 1);
         due("nor one between", x.point(0, 0, 2, 0), 20);
         due("still three", x.point(0, 0, 3, 0), NO);
+    }
+
+    private static void tellingChangesNothing() {
+        sentence("Nothing is promised beyond the answers and state changes described above");
+        changesNothing("a time", Scenes::rich, x -> x.point(3, 2, 7, 0), 390);
+        changesNothing("a value, beside a late point of its time", Scenes::rich, x -> x.point(2, 0, 10, 1), 3);
     }
 }

@@ -9,6 +9,7 @@ public final class Promise16LateTest extends Edges {
         inPlace();
         extremes();
         whichSeries();
+        tellingChangesNothing();
         end();
     }
 
@@ -97,5 +98,11 @@ public final class Promise16LateTest extends Edges {
         x.put(3, 0, 5);
         due("the last series", x.late(3, 0, 1), 5);
         noSuchSeries((y, s) -> y.late(s, 0, 0), NO);
+    }
+
+    private static void tellingChangesNothing() {
+        sentence("Nothing is promised beyond the answers and state changes described above");
+        changesNothing("a time", Scenes::rich, x -> x.late(0, 1, 0), 255);
+        changesNothing("a value", Scenes::rich, x -> x.late(2, 0, 1), -3);
     }
 }

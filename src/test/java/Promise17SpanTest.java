@@ -10,6 +10,8 @@ public final class Promise17SpanTest extends Edges {
         extremes();
         madeAnew();
         whichSeries();
+        inTheOrderOfTimes();
+        tellingChangesNothing();
         end();
     }
 
@@ -114,5 +116,28 @@ public final class Promise17SpanTest extends Edges {
         due("thinned", x.thin(3, 100, 100), 1);
         due("the last series", x.span(3, 0, 2), 10);
         noSuchSeries((y, s) -> y.span(s, 0, 0), NO);
+    }
+
+    private static void inTheOrderOfTimes() {
+        sentence("A SERIES has SPANS, BLOCKS, both in the order of TIMES, SPANS ahead of BLOCKS");
+        NumberRiver x = Scenes.counted(WHOLE, 7, 120);
+        due("thinned by 100", x.thin(0, 100, 100), 1);
+        due("thinned by 50", x.thin(0, 300, 50), 5);
+        due("thinned by 20", x.thin(0, 500, 20), 15);
+        for (int done = 0; done < 2; done++) {
+            long before = 0;
+            for (int i = 0; i < x.about(0, 2); i++) {
+                due("span " + i + " begins not below the end before", x.span(0, i, 0) >= before ? 1 : 0, 1);
+                before = x.span(0, i, 1);
+            }
+            due("the first block begins not below the last end", x.block(0, 0, 1) >= before ? 1 : 0, 1);
+            due("two spans go, once", x.drop(0, 150), done == 0 ? 2 : 0);
+        }
+    }
+
+    private static void tellingChangesNothing() {
+        sentence("Nothing is promised beyond the answers and state changes described above");
+        changesNothing("a begin", Scenes::rich, x -> x.span(0, 1, 0), 50);
+        changesNothing("how many", Scenes::rich, x -> x.span(0, 1, 2), 5);
     }
 }

@@ -18,6 +18,7 @@ public final class Promise18CountTest extends Edges {
         noPoint();
         whichSeries();
         noneBeforeBad();
+        askingLeavesNothing();
         end();
     }
 
@@ -201,5 +202,12 @@ public final class Promise18CountTest extends Edges {
         sentence("of several the first one told here: NONE, BAD");
         changesNothing("no series, a -1", Scenes::rich, x -> x.count(4, -1, 5), NONE);
         changesNothing("no series, b = a", Scenes::rich, x -> x.count(-1, 5, 5), NONE);
+    }
+
+    private static void askingLeavesNothing() {
+        sentence("Of the latest question (no question changes what another one answers)");
+        leavesOnlyItsScan("count by heads", x -> x.count(3, 0, 151));
+        leavesOnlyItsScan("count by points", x -> x.count(0, 60, 257));
+        leavesOnlyItsScan("count of nothing", x -> x.count(1, 50, 60));
     }
 }

@@ -10,6 +10,7 @@ public final class Promise19SumTest extends Edges {
         tornBlocks();
         greatSums();
         refusals();
+        askingLeavesNothing();
         end();
     }
 
@@ -100,5 +101,11 @@ public final class Promise19SumTest extends Edges {
         due("a 0, b 1", Scenes.rich().sum(3, 0, 1), 0);
         noSuchWindow((x, a, b) -> x.sum(0, a, b), NO);
         noSuchSeries((x, s) -> x.sum(s, 0, 5), NO);
+    }
+
+    private static void askingLeavesNothing() {
+        sentence("Of the latest question (no question changes what another one answers)");
+        leavesOnlyItsScan("sum by heads", x -> x.sum(3, 0, 151));
+        leavesOnlyItsScan("sum by points", x -> x.sum(0, 60, 257));
     }
 }

@@ -10,6 +10,7 @@ public final class Promise20LeastTest extends Edges {
         latePoints();
         tornBlocks();
         refusals();
+        askingLeavesNothing();
         end();
     }
 
@@ -104,5 +105,12 @@ public final class Promise20LeastTest extends Edges {
         noSuchWindow((x, a, b) -> x.least(0, a, b, false), NO);
         noSuchWindow((x, a, b) -> x.least(0, a, b, true), NO);
         noSuchSeries((x, s) -> x.least(s, 0, 500, true), NO);
+    }
+
+    private static void askingLeavesNothing() {
+        sentence("Of the latest question (no question changes what another one answers)");
+        leavesOnlyItsScan("least", x -> x.least(0, 60, 257, false));
+        leavesOnlyItsScan("most", x -> x.least(3, 0, 151, true));
+        leavesOnlyItsScan("the least of nothing", x -> x.least(1, 50, 60, false));
     }
 }

@@ -13,6 +13,7 @@ public final class Promise21RiseTest extends Edges {
         greatRises();
         otherKinds();
         refusals();
+        askingLeavesNothing();
         end();
     }
 
@@ -133,5 +134,11 @@ public final class Promise21RiseTest extends Edges {
         sentence("NO: no such SERIES, a, b as of count()");
         noSuchWindow((x, a, b) -> x.rise(3, a, b), NO);
         noSuchSeries((x, s) -> x.rise(s, 0, 500), NO);
+    }
+
+    private static void askingLeavesNothing() {
+        sentence("Of the latest question (no question changes what another one answers)");
+        leavesOnlyItsScan("rise", x -> x.rise(3, 5, 355));
+        leavesOnlyItsScan("rise beside a torn block", x -> x.rise(3, 160, 311));
     }
 }

@@ -14,6 +14,7 @@ public final class Promise22LevelTest extends Edges {
         farWindows();
         otherKinds();
         refusals();
+        askingLeavesNothing();
         end();
     }
 
@@ -163,5 +164,11 @@ public final class Promise22LevelTest extends Edges {
         sentence("NO: no such SERIES, a, b as of count()");
         noSuchWindow((x, a, b) -> x.level(2, a, b, 3), NO);
         noSuchSeries((x, s) -> x.level(s, 0, 500, 3), NO);
+    }
+
+    private static void askingLeavesNothing() {
+        sentence("Of the latest question (no question changes what another one answers)");
+        leavesOnlyItsScan("level", x -> x.level(2, 45, 90, 3));
+        leavesOnlyItsScan("level behind all points", x -> x.level(2, 1000, 1001, 4));
     }
 }

@@ -10,6 +10,7 @@ public final class Promise23ValueTest extends Edges {
         noSpans();
         extremes();
         refusals();
+        askingLeavesNothing();
         end();
     }
 
@@ -106,5 +107,12 @@ public final class Promise23ValueTest extends Edges {
         noSuchWindow((x, a, b) -> x.value(0, a, b, false), NO);
         noSuchWindow((x, a, b) -> x.value(0, a, b, true), NO);
         noSuchSeries((x, s) -> x.value(s, 0, 500, true), NO);
+    }
+
+    private static void askingLeavesNothing() {
+        sentence("Of the latest question (no question changes what another one answers)");
+        leavesOnlyItsScan("the first", x -> x.value(0, 101, 300, false));
+        leavesOnlyItsScan("the last", x -> x.value(2, 0, 51, true));
+        leavesOnlyItsScan("none", x -> x.value(1, 50, 60, true));
     }
 }

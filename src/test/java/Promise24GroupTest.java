@@ -10,6 +10,7 @@ public final class Promise24GroupTest extends Edges {
         oneAndEight();
         windowEdges();
         tornAndCut();
+        askingLeavesNothing();
         end();
     }
 
@@ -109,5 +110,12 @@ public final class Promise24GroupTest extends Edges {
         dueScans("of two", x, 2 * 3, 2, 2);
         due("of one", x.group(0, 2, 1, 380, 0), 16 + 1);
         dueScans("of one", x, 3, 1, 1);
+    }
+
+    private static void askingLeavesNothing() {
+        sentence("Of the latest question (no question changes what another one answers)");
+        leavesOnlyItsScan("counts", x -> x.group(0, 0, 0, 500, 0));
+        leavesOnlyItsScan("sums", x -> x.group(7, 15, 0, 260, 1));
+        leavesOnlyItsScan("over no series", x -> x.group(6, 0, 0, 500, 1));
     }
 }

@@ -14,6 +14,7 @@ public final class Promise25ScanTest extends Edges {
         tornAtTheEdge();
         tornOfEachQuestion();
         scannedWholly();
+        tellingChangesNothing();
         end();
     }
 
@@ -186,5 +187,12 @@ public final class Promise25ScanTest extends Edges {
         NumberRiver y = Scenes.fullOfMain();
         y.value(0, 0, 599, true);
         dueScans("300", y, 300, 0, 0);
+    }
+
+    private static void tellingChangesNothing() {
+        sentence("Nothing is promised beyond the answers and state changes described above");
+        changesNothing("scanned", Scenes::rich, x -> x.scan(0), 32);
+        changesNothing("cut", Scenes::rich, x -> x.scan(1), 1);
+        changesNothing("torn", Scenes::rich, x -> x.scan(2), 1);
     }
 }

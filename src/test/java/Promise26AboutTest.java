@@ -9,6 +9,8 @@ public final class Promise26AboutTest extends Edges {
         atTheirMost();
         tornOrNot();
         bitsOfAllBlocks();
+        asTheOthersTell();
+        tellingChangesNothing();
         end();
     }
 
@@ -118,5 +120,31 @@ public final class Promise26AboutTest extends Edges {
         x.merge(0);
         x.thin(0, 16, 16);
         due("spans take none", x.about(0, 5), 96);
+    }
+
+    private static void asTheOthersTell() {
+        sentence("its MAIN POINTS are those of its BLOCKS (of a TORN one as many as its HEAD tells)");
+        NumberRiver x = Scenes.rich();
+        for (int s = 0; s < 4; s++) {
+            int points = 0;
+            int bits = 0;
+            for (int i = 0; i < x.about(s, 1); i++) {
+                points += x.block(s, i, 0);
+                bits += x.block(s, i, 6);
+            }
+            due("main points of series " + s, x.about(s, 4), points);
+            due("bits of series " + s, x.about(s, 5), bits);
+            due("no block more", x.block(s, x.about(s, 1), 0), NONE);
+            due("no span more", x.span(s, x.about(s, 2), 0), NO);
+            due("no late point more", x.late(s, x.about(s, 3), 0), NO);
+        }
+    }
+
+    private static void tellingChangesNothing() {
+        sentence("Nothing is promised beyond the answers and state changes described above");
+        changesNothing("how many series", Scenes::rich, x -> x.about(-1, 0), 4);
+        changesNothing("blocks", Scenes::rich, x -> x.about(3, 1), 3);
+        changesNothing("torn blocks", Scenes::rich, x -> x.about(3, 6), 1);
+        changesNothing("late points", Scenes::rich, x -> x.about(0, 3), 2);
     }
 }

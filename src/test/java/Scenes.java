@@ -42,8 +42,13 @@ final class Scenes {
         x.put(2, 50, -3);
         x.fill(3, 0, 10, 0, 4, 40);
         x.tear(3, 1, 0, 128);
-        x.group(0, 0, 10, 205, 1);
+        askLast(x);
         return x;
+    }
+
+    /** The question that the rich river was asked last. */
+    static void askLast(NumberRiver x) {
+        x.group(0, 0, 10, 205, 1);
     }
 
     /** Spans 0 .. 99 and 100 .. 199, blocks 200 .. 350, 360 .. 510 and 520 .. 590; values 0 .. 59. */
